@@ -495,7 +495,7 @@ public final class WarmExtents {
     public int image() {
         imageWorld.copyFrom(now);
         imageSteps.copyFrom(steps);
-        System.arraycopy(texts, 0, imageTexts, 0, TEXTS);
+        copyTexts(texts, imageTexts);
         imageTextCount = textCount;
         return now.count[CLOCK];
     }
@@ -503,7 +503,7 @@ public final class WarmExtents {
     public int back() {
         now.copyFrom(imageWorld);
         steps.copyFrom(imageSteps);
-        System.arraycopy(imageTexts, 0, texts, 0, TEXTS);
+        copyTexts(imageTexts, texts);
         textCount = imageTextCount;
         return now.count[CLOCK];
     }
@@ -543,6 +543,12 @@ public final class WarmExtents {
                 return MOST_BUDGET;
             default:
                 return MOST_PRICE;
+        }
+    }
+
+    private static void copyTexts(Text[] from, Text[] to) {
+        for (int i = 0; i < TEXTS; i++) {
+            to[i] = from[i];
         }
     }
 
