@@ -35,6 +35,7 @@ public final class AccessTest {
         WarmExtents x = new WarmExtents();
         Check.due(7, "write(4, 0, 999)", x.write(4, 0, 999), 0);
         Check.due(7, "write(4, 0, 1000)", x.write(4, 0, 1000), -1);
+        Check.due(7, "write(4, 0, 1001)", x.write(4, 0, 1001), -1);
         Check.due(7, "write(4, 0, -1)", x.write(4, 0, -1), -1);
         Check.due(7, "write(4, 1, 5)", x.write(4, 1, 5), -1);
         Check.due(7, "write(4, -1, 5)", x.write(4, -1, 5), -1);
@@ -93,6 +94,8 @@ public final class AccessTest {
         Check.due(27, "head(0, -1)", x.head(0, -1), -2);
         Check.due(27, "head(1, 0)", x.head(1, 0), -2);
         Check.due(27, "head(-2, 0)", x.head(-2, 0), -2);
+        Check.due(27, "head(2, 0)", x.head(2, 0), -2);
+        Check.due(27, "head(3, 0)", x.head(3, 0), -2);
         x.read(8, 0);
         Check.due(26, "streamed, first in its extent", x.of(8, 2), 1);
         Check.due(26, "not seen", x.of(8, 0), 0);
@@ -164,7 +167,9 @@ public final class AccessTest {
         Check.due(18, "on fast", x.is(8), 4);
         Check.due(20, "slot(1, 0)", x.slot(1, 0), 0);
         Check.due(20, "slot(1, 1)", x.slot(1, 1), 1);
+        Check.due(22, "holder(0)", x.holder(0), 1);
         Check.due(22, "holder(1)", x.holder(1), 2);
+        Check.due(22, "holder(9)", x.holder(9), -1);
         Check.due(23, "free(0)", x.free(0), 2);
     }
 

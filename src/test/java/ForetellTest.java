@@ -140,10 +140,15 @@ public final class ForetellTest {
         Check.due(45, "the colder", x.coldest(1), 1);
         Check.warm(x, 9, 2);
         Check.due(45, "of slow ones", x.coldest(0), 8);
+        Check.due(46, "warmth(0)", x.warmth(0), 16);
         Check.due(45, "coldest(2)", x.coldest(2), -1);
+        x.read(0, 0);
+        Check.due(46, "0 is counted", x.warmth(0), 24);
+        WarmExtents y = new WarmExtents();
+        Check.makeFast(y, 0);
+        Check.due(45, "just 0", y.coldest(1), 0);
         Check.due(45, "coldest(-1)", x.coldest(-1), -1);
         Check.due(46, "warmth(1)", x.warmth(1), 8);
-        Check.due(46, "warmth(0)", x.warmth(0), 16);
         Check.due(46, "warmth(2)", x.warmth(2), -1);
         Check.due(46, "warmth(-1)", x.warmth(-1), -1);
     }

@@ -6,11 +6,13 @@ public final class HistoryTest {
         yearsEdges();
         undo();
         undoOfEach();
+        undoOfAll();
         thirtySteps();
         undoLeavesTexts();
         book();
         image();
         imageKeepsSteps();
+        imageKeepsTexts();
         Check.end("HistoryTest");
     }
 
@@ -67,6 +69,7 @@ public final class HistoryTest {
         Check.due(16, "X", x.is(1), (8399 * 773 + 641) % 31139);
         Check.due(16, "crashes", x.is(12), 2);
         WarmExtents y = new WarmExtents();
+        yearOfEachKind();
         // x = 293 * 2 + 409 = 995: a write of extent 9 * 9 / 10 = 8, block 0, of 995
         Check.due(16, "years(293, 1)", y.years(293, 1), 0);
         Check.due(16, "written", y.on(0, 20), 995);
@@ -82,6 +85,57 @@ public final class HistoryTest {
         Check.due(16, "streamed of 6", z.of(6, 2), 2);
         Check.due(16, "accesses", z.is(7), 6);
         scanOfAYear();
+    }
+
+    /** The first draw is seed * 2 + 409, so all odd ones from 409 on are first draws. */
+    private static WarmExtents firstDraw(int x) {
+        WarmExtents made = new WarmExtents();
+        made.years((x - 409) / 2, 1);
+        return made;
+    }
+
+    private static void yearOfEachKind() {
+        // extent 9 * 7 / 10 = 6; 791 mod 3 = 2
+        Check.due(16, "x = 791, a read", firstDraw(791).head(0, 0), 13 + 2 + 1);
+        Check.due(16, "x = 791, a read", firstDraw(791).heat(6), 8);
+        // extent 9 * 9 / 10 = 8
+        Check.due(16, "x = 993, a read", firstDraw(993).heat(8), 8);
+        // extent 8 * 9 / 10 = 7; 985 mod 4 = 1
+        Check.due(16, "x = 985, a write", firstDraw(985).on(0, 17), 985);
+        // extent 8 * 3 / 10 = 2 of 10385; 10385 mod 3 = 2
+        Check.due(16, "x = 10385, a write", firstDraw(10385).on(0, 5), 385);
+        Check.due(16, "x = 10385, a write", firstDraw(10385).heat(2), 12);
+        Check.due(16, "x = 997, a tick", firstDraw(997).is(0), 1);
+        Check.due(16, "x = 997, no access", firstDraw(997).is(7), 0);
+        Check.due(16, "x = 999, a tick", firstDraw(999).is(0), 1);
+        Check.due(16, "x = 889, a crash", firstDraw(889).is(12), 1);
+        Check.due(16, "x = 889, no tick", firstDraw(889).is(0), 0);
+        Check.due(16, "x = 859, a tick", firstDraw(859).is(0), 1);
+        Check.due(16, "x = 1009, a crash", firstDraw(1009).is(12), 1);
+        Check.due(16, "x = 1007, a tick", firstDraw(1007).is(0), 1);
+        evenYears();
+    }
+
+    /** Draws that end with an even digit come behind others alone: here, behind a tick. */
+    private static void evenYears() {
+        boolean[] met = new boolean[10];
+        for (int seed = 0; seed < 10000; seed++) {
+            int first = seed * 2 + 409;
+            int x = (first * 773 + 641) % 31139;
+            int kind = x % 10;
+            int extent = (x / 10 % 10) * (x / 100 % 10) / 10;
+            if (first % 10 == 7 && kind % 2 == 0 && !met[kind] && extent > 3) {
+                met[kind] = true;
+                WarmExtents made = new WarmExtents();
+                made.years(seed, 2);
+                Check.due(16, "x = " + x + ", clock", made.is(0), kind == 8 ? 2 : 1);
+                if (kind < 6) {
+                    Check.due(16, "x = " + x + ", heat", made.heat(extent), kind == 4 ? 12 : 8);
+                    Check.due(16, "x = " + x + ", accesses", made.is(7), 1);
+                }
+            }
+        }
+        Check.due(16, "all kinds were met", met[0] && met[2] && met[4] && met[6] && met[8], true);
     }
 
     /** Seeds whose first draw is a tick and whose second ends with 6. */
@@ -190,6 +244,86 @@ public final class HistoryTest {
         Check.due(17, "steps", x.about(1), steps);
     }
 
+    /** All that is told of a world, one behind the other. */
+    private static int[] told(WarmExtents x) {
+        int[] all = new int[500];
+        int at = 0;
+        for (int i = 0; i < 13; i++) {
+            all[at++] = x.is(i);
+        }
+        for (int e = 0; e < 10; e++) {
+            all[at++] = x.heat(e);
+            all[at++] = x.where(e);
+            all[at++] = x.gained(e);
+            for (int what = 0; what < 9; what++) {
+                all[at++] = x.of(e, what);
+            }
+            for (int block = 0; block < 4; block++) {
+                all[at++] = x.slot(e, block);
+                all[at++] = x.move(e, block);
+            }
+        }
+        for (int p = 0; p < 23; p++) {
+            all[at++] = x.on(0, p);
+            all[at++] = x.on(1, p);
+            all[at++] = x.holder(p);
+            all[at++] = x.head(p, 0);
+            all[at++] = x.head(p, 1);
+            for (int what = 0; what < 4; what++) {
+                all[at++] = x.book(p, what);
+            }
+        }
+        return all;
+    }
+
+    private static void undoOfAll() {
+        WarmExtents x = new WarmExtents();
+        Check.makeFast(x, 1);
+        Check.makeFast(x, 4);
+        x.write(1, 0, 7);
+        x.read(4, 0);
+        x.scan(2, 3);
+        x.day(4);
+        x.write(1, 1, 8);
+        x.scan(0, 4);
+        x.pin(0, 1);
+        x.tell(0, 1);
+        x.ask(3);
+        x.ask(1);
+        x.ask(0);
+        x.day(1);
+        int[] due = told(x);
+        x.image();
+        Check.read(x, "loop 9{loop 5{write a,b,a*10+b+500;tick;}}loop 4{tick;crash;scan 3,7;}");
+        x.played(0);
+        undone(x, due, "of a text");
+        x.years(4321, 24);
+        undone(x, due, "of years");
+        x.crash();
+        undone(x, due, "of a crash");
+        x.day(8);
+        undone(x, due, "of a day");
+        x.would(0);
+        x.foretold(8, 1);
+        same(42, x, due, "of what would be");
+        x.played(0);
+        x.years(4321, 24);
+        x.back();
+        same(53, x, due, "back");
+    }
+
+    private static void undone(WarmExtents x, int[] due, String what) {
+        x.undo();
+        same(17, x, due, "undo " + what);
+    }
+
+    private static void same(int promise, WarmExtents x, int[] due, String what) {
+        int[] got = told(x);
+        for (int i = 0; i < due.length; i++) {
+            Check.due(promise, what + ", number " + i, got[i], due[i]);
+        }
+    }
+
     private static void thirtySteps() {
         WarmExtents x = new WarmExtents();
         for (int i = 1; i <= 45; i++) {
@@ -284,8 +418,42 @@ public final class HistoryTest {
         Check.due(53, "a text again", Check.read(x, "crash;crash;"), 1);
         Check.due(15, "it is played", x.played(1), 2);
         Check.due(53, "back once more, the image stays", x.back(), 3);
+        Check.due(15, "the first text is as it was", x.played(0), 1);
+        Check.due(15, "the second is gone", x.played(1), -1);
+        x.back();
         Check.due(53, "texts", x.about(0), 1);
         Check.due(53, "crashes", x.is(12), 0);
+    }
+
+    private static void imageKeepsTexts() {
+        WarmExtents x = new WarmExtents();
+        Check.read(x, "tick;");
+        Check.read(x, "tick;tick;");
+        x.image();
+        Check.read(x, "crash;");
+        WarmExtents y = new WarmExtents();
+        y.back();
+        Check.due(53, "others have nothing to do with it", x.about(0), 3);
+        x.back();
+        Check.due(4, "a new third", Check.read(x, "tick;tick;tick;"), 2);
+        for (int i = 0; i < 3; i++) {
+            Check.due(15, "played(" + i + ")", x.played(i), i + 1);
+        }
+        Check.due(4, "a fourth", Check.read(x, "crash;"), 3);
+        x.image();
+        x.back();
+        for (int i = 0; i < 3; i++) {
+            Check.due(15, "played(" + i + ")", x.played(i), i + 1);
+        }
+        Check.due(15, "played(3)", x.played(3), 1);
+        Check.due(15, "played(4)", x.played(4), -1);
+        WarmExtents z = new WarmExtents();
+        Check.read(z, "tick;");
+        z.back();
+        Check.due(4, "the first again", Check.read(z, "tick;tick;"), 0);
+        z.image();
+        z.back();
+        Check.due(15, "the image has it", z.played(0), 2);
     }
 
     private static void imageKeepsSteps() {

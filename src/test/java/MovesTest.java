@@ -72,6 +72,7 @@ public final class MovesTest {
         Check.due(28, "move(1, 4)", x.move(1, 4), -2);
         Check.due(28, "move(1, -1)", x.move(1, -1), -2);
         Check.due(28, "move(2, 0)", x.move(2, 0), -2);
+        Check.due(28, "move(3, 0)", x.move(3, 0), -2);
         Check.due(28, "move(-2, 0)", x.move(-2, 0), -2);
         Check.due(29, "moveOf(0)", x.moveOf(0), 1);
         Check.due(29, "moveOf(3)", x.moveOf(3), 0);
@@ -344,6 +345,7 @@ public final class MovesTest {
         Check.makeFast(x, 4);
         x.ask(0);
         x.day(1);
+        Check.due(22, "its slot is free", x.holder(0), -1);
         Check.makeFast(x, 9);
         Check.due(20, "the lowest free slots", x.slot(9, 0), 0);
         Check.due(20, "by blocks", x.slot(9, 1), 4);

@@ -11,9 +11,12 @@ public final class PlanTest {
         movesBegunBind();
         movesNotBegunDont();
         restBinds();
+        seenOften();
+        bindsNoMore();
         orderOfMoves();
         thresholds();
         thresholdOfAFastOne();
+        thresholdsAtTheEdge();
         budgets();
         edges();
         Check.end("PlanTest");
@@ -245,6 +248,32 @@ public final class PlanTest {
         Check.due(36, "no more", x.may(0, true), true);
     }
 
+    private static void seenOften() {
+        WarmExtents x = new WarmExtents();
+        for (int epoch = 1; epoch <= 8; epoch++) {
+            x.read(6, 0);
+            Check.due(26, "seen", x.of(6, 0), (1 << epoch) - 1);
+            Check.due(36, "may be in", x.may(6, true), epoch >= 2);
+            x.day(4);
+        }
+        Check.due(26, "seen", x.of(6, 0), 254);
+    }
+
+    private static void bindsNoMore() {
+        WarmExtents x = new WarmExtents();
+        x.ask(0);
+        x.ask(3);
+        x.day(1);
+        Check.due(30, "3 is begun", x.plan(), 9);
+        x.drop(3);
+        Check.due(30, "3 is dropped", x.plan(), 1);
+        Check.due(36, "3 may be out", x.may(3, false), true);
+        x.crash();
+        x.undo();
+        x.undo();
+        Check.due(30, "3 is begun again", x.plan(), 9);
+    }
+
     private static void orderOfMoves() {
         WarmExtents x = new WarmExtents();
         x.tell(0, 6);
@@ -326,7 +355,7 @@ public final class PlanTest {
         // 0, 7 and 9 leave 2 slots: 2 would have to be worth more than one of them, 100000
         Check.due(30, "plan", x.plan(), 641);
         Check.due(34, "threshold(2)", x.threshold(2), -1);
-        // now only 7 and 9, and 2 against each of them
+        quarterOfAFastOne();
         x.pin(0, 0);
         x.pin(7, 0);
         x.pin(9, 0);
@@ -337,6 +366,57 @@ public final class PlanTest {
         Check.due(32, "value(4)", x.value(4), 25);
         Check.due(32, "value(0)", x.value(0), -10);
         Check.due(34, "threshold(2): it is worth more cold", x.threshold(2), 0);
+    }
+
+    /** 0 is fast, and rested; it has to be worth more than 4, for there is room for one of them. */
+    private static void quarterOfAFastOne() {
+        WarmExtents x = new WarmExtents();
+        Check.makeFast(x, 0);
+        x.day(7);
+        x.read(4, 0);
+        x.day(4);
+        x.pin(3, 1);
+        x.pin(7, 1);
+        x.tell(1, 12);
+        x.tell(2, 0);
+        Check.warm(x, 4, 12);
+        Check.due(25, "heat(4)", x.heat(4), 100);
+        Check.due(30, "plan", x.plan(), 8 + 128 + 16);
+        // 80 and a quarter of it are as much, and 0 is the lower number; 79 and 19 are not
+        Check.due(34, "threshold(0)", x.threshold(0), 80);
+        Check.due(35, "displaced(0)", x.displaced(0), 16);
+    }
+
+    private static void thresholdsAtTheEdge() {
+        WarmExtents x = new WarmExtents();
+        Check.makeFast(x, 0);
+        x.day(7);
+        x.day(4);
+        x.pin(3, 1);
+        x.pin(7, 1);
+        x.pin(4, 1);
+        x.tell(1, 12);
+        // 3, 7 and 4 fill the nine slots; 0 has to be hotter than 4 by 100000
+        Check.due(34, "threshold", x.threshold(0), -1);
+        x.pin(4, 0);
+        Check.due(34, "one slot is left for it", x.threshold(0), 1);
+        WarmExtents y = known(new int[] {4, 8}, new int[] {1, 1});
+        y.tell(1, 1);
+        Check.read(y, "loop 9{loop 9{loop 9{write 8,0,1;}}}");
+        y.played(0);
+        y.played(0);
+        y.played(0);
+        Check.due(25, "heat(8)", y.heat(8), 9999);
+        Check.due(34, "like heat, a lower number", y.threshold(4), 9999);
+        Check.due(35, "displaced", y.displaced(4), 256);
+        WarmExtents z = known(new int[] {4, 8}, new int[] {1, 1});
+        z.tell(1, 1);
+        Check.read(z, "loop 9{loop 9{loop 9{write 4,0,1;}}}");
+        z.played(0);
+        z.played(0);
+        z.played(0);
+        Check.due(34, "like heat, a higher number", z.threshold(8), -1);
+        Check.due(34, "threshold(4)", z.threshold(4), 12);
     }
 
     private static void budgets() {

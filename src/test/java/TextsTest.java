@@ -7,6 +7,7 @@ public final class TextsTest {
         numbersAndWords();
         faultsOfDepth();
         manyStatements();
+        manyTexts();
         faultsStay();
         plays();
         loopsAndIfs();
@@ -120,6 +121,9 @@ public final class TextsTest {
         Check.dueFault("tic;", 1, 0);
         Check.dueFault("t ick;", 1, 0);
         Check.dueFault("readA 1,2;", 1, 0);
+        Check.dueFault("readz 1,2;", 1, 0);
+        Check.dueFault("readZ 1,2;", 1, 0);
+        Check.dueFault("readM 1,2;", 1, 0);
         Check.dueFault("loop 2{read ab,1;}", 1, 12);
         Check.dueFault("loop 2{read A,1;}", 1, 12);
         Check.dueFault("loop 2{read d,1;}", 1, 12);
@@ -128,6 +132,8 @@ public final class TextsTest {
     private static void faultsOfDepth() {
         Check.dueFault("read a,0;", 4, 5);
         Check.dueFault("loop 2{read b,0;}", 4, 12);
+        Check.dueFault("read c,0;", 4, 5);
+        Check.dueFault("loop 2{read c,0;}", 4, 12);
         Check.dueFault("loop 2{loop 2{read c,0;}}", 4, 19);
         Check.dueFault("loop 2{loop 2{loop 2{read a+b+c,a*b*c;}}}", 0, -1);
         Check.dueFault("loop 2{}read a,0;", 4, 13);
@@ -153,6 +159,18 @@ public final class TextsTest {
         Check.dueFault(ticks + "loop 2{tick;} }", 1, 204);
         Check.dueFault("tick;".repeat(37) + "if 1=1{if 1=1{if 1=1{tick;}}}", 5, 206);
         Check.dueFault("tick;".repeat(37) + "if 1=1{if 1=1{if 1=1{if 1=1{}}}}", 3, 206);
+    }
+
+    /** What was counted in a text has nothing to do with the next one. */
+    private static void manyTexts() {
+        WarmExtents x = new WarmExtents();
+        Check.due(4, "forty", Check.read(x, "tick;".repeat(40)), 0);
+        Check.due(4, "a fault in loops", Check.read(x, "loop 2{loop 2{loop 2{"), -1);
+        Check.due(5, "at the end", x.fault(1), 21);
+        Check.due(4, "no loop is around it", Check.read(x, "read a,0;"), -1);
+        Check.due(5, "fault(0)", x.fault(0), 4);
+        Check.due(4, "forty again", Check.read(x, "tick;".repeat(36) + "loop 2{loop 2{loop 2{tick;}}}"), 1);
+        Check.due(15, "played", x.played(1), 44);
     }
 
     private static void faultsStay() {
@@ -198,6 +216,11 @@ public final class TextsTest {
         Check.read(x, "scan 5,4; read 3,2;");
         Check.due(15, "a scan of none", x.played(1), 1);
         Check.due(15, "heat of 3", x.heat(3), 8);
+        Check.due(27, "block 2 of 3 was read", x.head(0, 0), 9);
+        Check.read(x, "read 7,11; read 1,5;");
+        Check.due(15, "reads", x.played(2), 2);
+        Check.due(27, "block 3 of 7 was read", x.head(1, 0), 20);
+        Check.due(27, "block 1 of 1 was read", x.head(2, 0), 3);
     }
 
     private static void loopsAndIfs() {
