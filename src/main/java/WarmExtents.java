@@ -90,7 +90,7 @@ public final class WarmExtents {
 
     private final World imageWorld = new World();
     private final History imageSteps = new History();
-    private final Text[] imageTexts = new Text[TEXTS];
+    // Texts only come behind those of the image, so these are always the same ones as in texts.
     private int imageTextCount = 0;
 
     public WarmExtents() {
@@ -495,7 +495,6 @@ public final class WarmExtents {
     public int image() {
         imageWorld.copyFrom(now);
         imageSteps.copyFrom(steps);
-        copyTexts(texts, imageTexts);
         imageTextCount = textCount;
         return now.count[CLOCK];
     }
@@ -503,7 +502,6 @@ public final class WarmExtents {
     public int back() {
         now.copyFrom(imageWorld);
         steps.copyFrom(imageSteps);
-        copyTexts(imageTexts, texts);
         textCount = imageTextCount;
         return now.count[CLOCK];
     }
@@ -543,12 +541,6 @@ public final class WarmExtents {
                 return MOST_BUDGET;
             default:
                 return MOST_PRICE;
-        }
-    }
-
-    private static void copyTexts(Text[] from, Text[] to) {
-        for (int i = 0; i < TEXTS; i++) {
-            to[i] = from[i];
         }
     }
 
@@ -1025,7 +1017,6 @@ public final class WarmExtents {
                     return false;
                 }
                 disks.takeSlots(extent);
-                moves.copied[i] = 0;
             }
             moves.begun[i] = 1;
             writeDown(BEGUN, extent, moves.toFast[i]);

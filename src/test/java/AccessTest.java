@@ -135,6 +135,17 @@ public final class AccessTest {
         Check.due(27, "two", x.head(-1, 0), 2);
         Check.due(27, "awaited", x.head(1, 0), 8);
         Check.due(27, "length", x.head(1, 1), 2);
+        x.read(3, 2);
+        Check.due(27, "length of the one that awaits 9", x.head(1, 1), 3);
+        x.read(0, 0);
+        Check.due(27, "it isn't the latest", x.head(1, 1), 3);
+        x.read(2, 2);
+        Check.due(27, "the first was gone on with", x.head(2, 1), 3);
+        Check.due(27, "so the next is the eldest", x.head(0, 1), 3);
+        Check.due(27, "and the one of 0 is behind it", x.head(1, 1), 1);
+        x.read(9, 0);
+        Check.due(27, "the eldest is out", x.head(0, 1), 1);
+        Check.due(27, "3 was behind it", x.head(1, 1), 3);
     }
 
     private static void coldStreams() {

@@ -16,11 +16,13 @@ public final class FuzzTest {
     private final Oracle due = new Oracle();
     private final List<String> log = new ArrayList<>();
     private final int calm;
+    private final boolean slow;
     private int wrong = 0;
 
     private FuzzTest(long seed) {
         random = new Random(seed);
         calm = (int) (seed % 4);
+        slow = seed % 8 < 4;
     }
 
     public static void main(String[] args) throws Exception {
@@ -38,7 +40,11 @@ public final class FuzzTest {
         System.out.println(runs + " random runs answered as due");
     }
 
+    /** In half of the runs the moves are many and slow. */
     private void go() throws Exception {
+        if (slow) {
+            call("tell", 0, 1 + random.nextInt(2));
+        }
         for (int i = 0; i < 170 && wrong == 0; i++) {
             deed();
             if (wrong == 0) {
@@ -70,6 +76,9 @@ public final class FuzzTest {
         if (calm > 0 && (name.equals("crash") || name.equals("back") || name.equals("years")) && random.nextInt(6) > 0) {
             name = "read";
         }
+        if (slow && (name.equals("tell") || name.equals("undo") || name.equals("scan")) && random.nextInt(3) > 0) {
+            name = "ask";
+        }
         switch (name) {
             case "read":
                 warm();
@@ -92,7 +101,7 @@ public final class FuzzTest {
                 call(name, extent());
                 break;
             case "day":
-                call("day", random.nextInt(3) == 0 ? upTo(8) : 1 + random.nextInt(3));
+                call("day", random.nextInt(slow ? 9 : 3) == 0 ? upTo(8) : 1 + random.nextInt(slow ? 2 : 3));
                 break;
             case "played":
                 call("played", upTo(3));

@@ -357,6 +357,7 @@ public final class HistoryTest {
         WarmExtents x = new WarmExtents();
         Check.due(50, "none", x.book(-1, 0), 0);
         Check.due(50, "book(0, 0)", x.book(0, 0), -2);
+        Check.due(50, "book(7, 0)", x.book(7, 0), -2);
         for (int i = 0; i < 30; i++) {
             x.pin(i % 10, 1 + i / 10 % 2);
         }
@@ -367,6 +368,7 @@ public final class HistoryTest {
         Check.due(50, "book(25, 0)", x.book(25, 0), -2);
         Check.due(50, "book(-2, 0)", x.book(-2, 0), -2);
         Check.due(50, "book(0, 4)", x.book(0, 4), -2);
+        Check.due(50, "book(0, 5)", x.book(0, 5), -2);
         Check.due(50, "book(0, -1)", x.book(0, -1), -2);
         Check.due(51, "pinned", x.ledger(5), 25);
         x.day(1);

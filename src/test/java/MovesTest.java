@@ -12,6 +12,7 @@ public final class MovesTest {
         wholeWithoutCopies();
         drops();
         crashes();
+        allNine();
         scattered();
         Check.end("MovesTest");
     }
@@ -158,6 +159,7 @@ public final class MovesTest {
         x.ask(3);
         x.ask(7);
         x.day(2);
+        Check.due(22, "the lowest slot", x.holder(0), 6);
         Check.due(19, "where(7)", x.where(7), 1);
         Check.due(23, "one slot is left", x.free(0), 8);
         x.ask(1);
@@ -333,9 +335,24 @@ public final class MovesTest {
         Check.warm(x, 5, 2);
         x.day(3);
         Check.warm(x, 5, 1);
+        Check.warm(x, 0, 1);
         x.crash();
+        Check.due(25, "heat of 0 as saved", x.heat(0), 0);
         Check.due(25, "heat as saved", x.heat(5), 8);
         Check.due(26, "seen as saved", x.of(5, 0), 2);
+    }
+
+    private static void allNine() {
+        WarmExtents x = new WarmExtents();
+        x.tell(0, 6);
+        x.ask(3);
+        x.ask(6);
+        x.ask(1);
+        x.day(2);
+        Check.due(19, "nine slots are enough for 4, 3 and 2", x.where(1), 1);
+        Check.due(23, "none is free", x.free(0), -1);
+        Check.due(22, "holder(8)", x.holder(8), 2);
+        Check.due(18, "switches", x.is(11), 3);
     }
 
     private static void scattered() {

@@ -10,10 +10,12 @@ public final class PlanTest {
         pinsWeigh();
         movesBegunBind();
         movesNotBegunDont();
+        dropsBehindBegunOnes();
         restBinds();
         seenOften();
         bindsNoMore();
         orderOfMoves();
+        warmestFirst();
         thresholds();
         thresholdOfAFastOne();
         thresholdsAtTheEdge();
@@ -172,6 +174,7 @@ public final class PlanTest {
     private static void movesBegunBind() {
         WarmExtents x = new WarmExtents();
         x.ask(3);
+        Check.due(30, "not begun", x.plan(), 0);
         x.day(1);
         Check.due(28, "begun", x.move(0, 2), 1);
         Check.due(30, "in it", x.plan(), 8);
@@ -190,6 +193,7 @@ public final class PlanTest {
         y.write(3, 2, 1);
         y.ask(3);
         y.tell(0, 1);
+        Check.due(30, "not begun", y.plan(), 8);
         y.day(1);
         Check.due(28, "begun", y.move(0, 2), 1);
         Check.due(26, "though it rests", y.of(3, 3), 3);
@@ -221,6 +225,38 @@ public final class PlanTest {
         Check.due(51, "dropped and planned anew", x.ledger(2), 3);
     }
 
+    private static void dropsBehindBegunOnes() {
+        WarmExtents x = new WarmExtents();
+        x.day(1);
+        x.tell(0, 1);
+        x.ask(0);
+        x.ask(3);
+        x.ask(2);
+        x.ask(1);
+        x.day(1);
+        x.ask(0);
+        x.day(2);
+        Check.due(28, "moves", x.move(-1, 0), 1);
+        Check.due(28, "the one that is begun", x.move(0, 0), 3);
+        Check.due(28, "its blocks", x.move(0, 3), 12);
+        int last = x.book(-1, 0) - 1;
+        int[] dropped = {2, 1, 0};
+        for (int i = 0; i < 3; i++) {
+            Check.due(50, "dropped", x.book(last - 3 + i, 1), 2);
+            Check.due(50, "in order", x.book(last - 3 + i, 2), dropped[i]);
+            Check.due(50, "to fast or to slow", x.book(last - 3 + i, 3), i < 2 ? 1 : 0);
+        }
+        Check.due(50, "the set: 0 rests, 3 is begun", x.book(last, 2), 9);
+        x.pin(4, 1);
+        x.ask(6);
+        Check.due(37, "behind it", x.next(0), 4);
+        x.day(4);
+        Check.due(19, "3 was whole", x.where(3), 1);
+        Check.due(28, "moves", x.move(-1, 0), 2);
+        Check.due(28, "6 is begun", x.move(0, 0), 6);
+        Check.due(28, "4 is behind it", x.move(1, 0), 4);
+    }
+
     private static void restBinds() {
         WarmExtents x = new WarmExtents();
         x.day(3);
@@ -246,6 +282,25 @@ public final class PlanTest {
         x.day(4);
         Check.due(18, "epoch", x.is(2), 6);
         Check.due(36, "no more", x.may(0, true), true);
+    }
+
+    private static void warmestFirst() {
+        WarmExtents x = new WarmExtents();
+        for (int e : new int[] {1, 2, 4}) {
+            x.pin(e, 1);
+        }
+        Check.warm(x, 1, 1);
+        Check.warm(x, 2, 2);
+        Check.warm(x, 4, 3);
+        Check.due(37, "the warmest", x.next(0), 4);
+        Check.due(37, "the next", x.next(1), 2);
+        Check.due(37, "the coldest", x.next(2), 1);
+        Check.due(37, "no more", x.next(3), -2);
+        WarmExtents y = new WarmExtents();
+        Check.makeFast(y, 0);
+        y.day(8);
+        y.day(3);
+        Check.due(37, "cold, it goes", y.next(0), 0);
     }
 
     private static void seenOften() {
