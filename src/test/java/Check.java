@@ -2,8 +2,25 @@
 final class Check {
     static final long MIN = Integer.MIN_VALUE;
     private static int wrong = 0;
+    private static String sentence = "";
 
     private Check() {
+    }
+
+    /** What is due from here on, without the number of a promise, is due by this sentence of the document. */
+    static void sentence(String words) {
+        sentence = words;
+    }
+
+    static void due(String what, long got, long want) {
+        if (got != want) {
+            wrong++;
+            System.out.println("\"" + sentence + "\": " + what + " answered " + got + ", due is " + want);
+        }
+    }
+
+    static void due(String what, boolean got, boolean want) {
+        due(what, got ? 1 : 0, want ? 1 : 0);
     }
 
     static void due(int promise, String what, long got, long want) {
@@ -59,6 +76,59 @@ final class Check {
         x.tell(0, 6);
         x.ask(extent);
         x.day(1);
+    }
+
+    /** A new object in which each of these extents was read so often in this epoch, and once in the one ahead. */
+    static WarmExtents known(int[] extents, int[] reads) {
+        WarmExtents x = new WarmExtents();
+        for (int e : extents) {
+            warm(x, e, 1);
+        }
+        x.day(4);
+        for (int i = 0; i < extents.length; i++) {
+            warm(x, extents[i], reads[i]);
+        }
+        return x;
+    }
+
+    /** What a call that is refused leaves as it was, in few calls. */
+    static int[] state(WarmExtents x) {
+        int[] all = new int[70];
+        int at = 0;
+        for (int what = 0; what <= 12; what++) {
+            all[at++] = x.is(what);
+        }
+        for (int what = 0; what <= 2; what++) {
+            all[at++] = x.about(what);
+        }
+        all[at++] = x.book(-1, 0);
+        all[at++] = x.move(-1, 0);
+        all[at++] = x.head(-1, 0);
+        all[at++] = x.fault(0);
+        all[at++] = x.fault(1);
+        for (int e = 0; e < 10; e++) {
+            all[at++] = x.heat(e);
+            all[at++] = x.of(e, 4);
+        }
+        for (int p = 0; p < 23; p++) {
+            all[at++] = x.on(0, p);
+        }
+        return all;
+    }
+
+    static void unchanged(WarmExtents x, int[] before) {
+        int[] after = state(x);
+        for (int i = 0; i < before.length; i++) {
+            due("number " + i + " of the state behind what was refused", after[i], before[i]);
+        }
+    }
+
+    /** By the sentence: whether the text has this fault (0 for none) at this place. */
+    static void blamed(String text, int what, int place) {
+        WarmExtents x = new WarmExtents();
+        due("text() of '" + text + "'", read(x, text), what == 0 ? 0 : -1);
+        due("fault(0) of '" + text + "'", x.fault(0), what);
+        due("fault(1) of '" + text + "'", x.fault(1), place);
     }
 
     /** Whether the text has this fault at this place. */

@@ -24,19 +24,6 @@ public final class PlanTest {
         Check.end("PlanTest");
     }
 
-    /** Each of these extents is known: warmed so often in the epoch ahead and in this one. */
-    private static WarmExtents known(int[] extents, int[] reads) {
-        WarmExtents x = new WarmExtents();
-        for (int e : extents) {
-            Check.warm(x, e, 1);
-        }
-        x.day(4);
-        for (int i = 0; i < extents.length; i++) {
-            Check.warm(x, extents[i], reads[i]);
-        }
-        return x;
-    }
-
     private static void nothing() {
         WarmExtents x = new WarmExtents();
         Check.due(30, "plan", x.plan(), 0);
@@ -76,7 +63,7 @@ public final class PlanTest {
     }
 
     private static void streamsAreNotWanted() {
-        WarmExtents x = known(new int[] {3}, new int[] {1});
+        WarmExtents x = Check.known(new int[] {3}, new int[] {1});
         Check.due(30, "plain 1", x.plan(), 0);
         Check.warm(x, 3, 3);
         Check.due(30, "plain 4, streamed 0", x.plan(), 8);
@@ -97,7 +84,7 @@ public final class PlanTest {
     }
 
     private static void likeWorth() {
-        WarmExtents x = known(new int[] {4, 8}, new int[] {2, 2});
+        WarmExtents x = Check.known(new int[] {4, 8}, new int[] {2, 2});
         x.tell(1, 1);
         Check.due(25, "like heats", x.heat(4) - x.heat(8), 0);
         Check.due(30, "the lowest number", x.plan(), 16);
@@ -111,7 +98,7 @@ public final class PlanTest {
     }
 
     private static void holdsOn() {
-        WarmExtents x = known(new int[] {0, 1, 2, 3}, new int[] {1, 2, 3, 4});
+        WarmExtents x = Check.known(new int[] {0, 1, 2, 3}, new int[] {1, 2, 3, 4});
         x.tell(2, 0);
         for (int e : new int[] {0, 1, 2}) {
             x.ask(e);
@@ -164,7 +151,7 @@ public final class PlanTest {
         Check.due(31, "worth(2)", x.worth(2), 100000 - 4);
         Check.due(31, "worth(0)", x.worth(0), 0);
         Check.due(38, "enough", x.enough(), 3);
-        WarmExtents y = known(new int[] {4}, new int[] {9});
+        WarmExtents y = Check.known(new int[] {4}, new int[] {9});
         Check.due(30, "known", y.plan(), 16);
         y.pin(4, 2);
         Check.due(30, "pinned slow", y.plan(), 0);
@@ -363,7 +350,7 @@ public final class PlanTest {
     }
 
     private static void thresholds() {
-        WarmExtents x = known(new int[] {1, 4, 8, 9}, new int[] {3, 1, 1, 2});
+        WarmExtents x = Check.known(new int[] {1, 4, 8, 9}, new int[] {3, 1, 1, 2});
         x.tell(1, 2);
         // heats 28, 12, 12, 20; at price 4: 20 for 1, 8 and 8 for 4 and 8, 12 for 9
         Check.due(30, "plan", x.plan(), 2);
@@ -455,7 +442,7 @@ public final class PlanTest {
         Check.due(34, "threshold", x.threshold(0), -1);
         x.pin(4, 0);
         Check.due(34, "one slot is left for it", x.threshold(0), 1);
-        WarmExtents y = known(new int[] {4, 8}, new int[] {1, 1});
+        WarmExtents y = Check.known(new int[] {4, 8}, new int[] {1, 1});
         y.tell(1, 1);
         Check.read(y, "loop 9{loop 9{loop 9{write 8,0,1;}}}");
         y.played(0);
@@ -464,7 +451,7 @@ public final class PlanTest {
         Check.due(25, "heat(8)", y.heat(8), 9999);
         Check.due(34, "like heat, a lower number", y.threshold(4), 9999);
         Check.due(35, "displaced", y.displaced(4), 256);
-        WarmExtents z = known(new int[] {4, 8}, new int[] {1, 1});
+        WarmExtents z = Check.known(new int[] {4, 8}, new int[] {1, 1});
         z.tell(1, 1);
         Check.read(z, "loop 9{loop 9{loop 9{write 4,0,1;}}}");
         z.played(0);
@@ -475,7 +462,7 @@ public final class PlanTest {
     }
 
     private static void budgets() {
-        WarmExtents x = known(new int[] {1, 2, 4, 9}, new int[] {3, 4, 1, 5});
+        WarmExtents x = Check.known(new int[] {1, 2, 4, 9}, new int[] {3, 4, 1, 5});
         // heats 28, 36, 12, 44
         Check.due(31, "worth(0)", x.worth(0), 0);
         Check.due(31, "worth(1)", x.worth(1), 8);
@@ -492,7 +479,7 @@ public final class PlanTest {
     }
 
     private static void edges() {
-        WarmExtents x = known(new int[] {3, 7, 0, 4}, new int[] {2, 2, 2, 2});
+        WarmExtents x = Check.known(new int[] {3, 7, 0, 4}, new int[] {2, 2, 2, 2});
         x.tell(1, 12);
         Check.due(33, "nine slots", x.needs(8 + 128 + 1), 9);
         Check.due(33, "ten slots", x.needs(8 + 128 + 1 + 16), -1);
